@@ -139,6 +139,10 @@ public final class PromisesTest {
     y.write(0, 0, 1);
     due("hand() the seventh, behind a CHANGE", y.hand(), FULL);
     due("count(0)", y.count(0), 6);
+    due("told(6, 0) beyond the last HAND", y.told(6, 0), BAD);
+    due("digest(6)", y.digest(6), 0);
+    y.write(5, 0, 2);
+    due("meet(5, 0, 9) among six HANDS", y.meet(5, 0, 9), 1);
   }
 
   private void pageCall() {
@@ -153,6 +157,7 @@ public final class PromisesTest {
     due("page(0) the eleventh", x.page(0), FULL);
     due("page(8), BAD ahead of FULL", x.page(8), BAD);
     due("count(1)", x.count(1), 10);
+    due("is(10, 0) beyond the last PAGE", x.is(10, 0), BAD);
   }
 
   private void isCall() {
@@ -721,6 +726,10 @@ public final class PromisesTest {
     dueFinding(x, "head(0, 0, 3)", x.head(0, 0, 3), BEYOND);
     dueFinding(x, "head(0, 0, -1)", x.head(0, 0, -1), BEYOND);
     due("asked() stays", x.asked(), 8);
+    x.write(0, 0, 10);
+    due("head(0, 0, 0), KNOWING all others", x.head(0, 0, 0), 4);
+    due("head(2, 0, 0), in a COPY that lacks it", x.head(2, 0, 0), 0);
+    dueFinding(x, "head(2, 0, 1)", x.head(2, 0, 1), BEYOND);
     dueFinding(x, "head(0, 1, 9), UNLIKE ahead of BEYOND", x.head(0, 1, 9), UNLIKE);
     due("head(3, 0, 0)", x.head(3, 0, 0), BAD);
     due("head(0, 2, 0)", x.head(0, 2, 0), BAD);
