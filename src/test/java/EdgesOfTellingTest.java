@@ -150,6 +150,28 @@ public final class EdgesOfTellingTest {
         value(0, 0) = NONE
         finding() = 0
         """);
+    rows.of(38, "BAD, FULL, STATE leave the latest one", """
+        book 6: LAST LAST LAST LAST LAST LAST LAST LAST LAST LAST
+        leaves(0, -1) = SIZE
+        hand() = FULL
+        page(LAST) = FULL
+        page(8) = BAD
+        write(0, 0, 1) = 0
+        lose(0) = 1
+        write(0, 0, 1) = STATE
+        write(0, 10, 1) = BAD
+        399 x write(1, 0, 1) = 1 ..
+        write(0, 0, 1) = FULL
+        finding() = 5
+        findings(5) = 1
+        """);
+    rows.of(38, "STATE of hand() leaves the latest one", """
+        book 1: LAST
+        write(0, 0, 1) = 0
+        leaves(0, -1) = SIZE
+        hand() = STATE
+        finding() = 5
+        """);
     rows.of(38, "the latest one, each of the five; it stays till another one", """
         book 1: LAST TALLY
         mean(0, 1) = NOUGHT

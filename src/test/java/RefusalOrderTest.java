@@ -62,11 +62,21 @@ public final class RefusalOrderTest {
     return page == LAST_PAGE ? BAG_PAGE : LAST_PAGE;
   }
 
-  /** HAND 0 makes two CHANGES, which let it take and spend; what is to fit is then brought about. */
+  /**
+   * HAND 0 makes two CHANGES, which let it take and spend; what is to fit is then brought about. A finding, a
+   * number that asked() tells, a LEAF, one that WAITS and a PAGE that is not kept stand there, so that a refusal that
+   * wipes one of them out is seen.
+   */
   private static String state(int set, int page) {
     StringBuilder s = new StringBuilder("book " + HAND_COUNT + ": " + PAGES + "\n");
+    s.append("leaves(0, -1) = SIZE\n");
     s.append("put(0, " + BAG_PAGE + ", 1) = 0\n");
     s.append("add(0, " + PURSE_PAGE + ", 5) = 1\n");
+    s.append("come(1, 1) = 10\n");
+    s.append("keep(1, " + FLAG_PAGE + ", false) = 1\n");
+    s.append("leaves(0, 2) = 2\n");
+    s.append("rights(0, " + PURSE_PAGE + ", 0) = 1\n");
+    s.append("save(0, 1) = 1\n");
     if ((set & FULL) != 0) s.append("398 x write(1, 0, 1) = 2 ..\n");
     if ((set & STATE) != 0) s.append("lose(0) = 2\n");
     if ((set & NOTHING) != 0) s.append("keep(0, " + page + ", false) = 1\n");
