@@ -136,8 +136,7 @@ public final class ManyHands {
   public int give(int hand, int page, int to, long v) {
     Hand h = handAt(hand);
     Page p = pageAt(page);
-    Hand receiver = handAt(to);
-    if (h == null || p == null || receiver == null || h == receiver || !isAmount(v)) {
+    if (h == null || p == null || handAt(to) == null || hand == to || !isAmount(v)) {
       return BAD;
     }
     return makeOfRights(h, p, GIVEN, to, v);
@@ -206,7 +205,7 @@ public final class ManyHands {
   public int meet(int hand, int other, int n) {
     Hand giver = handAt(hand);
     Hand receiver = handAt(other);
-    if (giver == null || receiver == null || giver == receiver || n < 0) {
+    if (giver == null || receiver == null || hand == other || n < 0) {
       return BAD;
     }
     int most = Math.min(n, MOST_CHANGES);
@@ -477,10 +476,12 @@ public final class ManyHands {
       d = folded(d, h.report(what));
     }
     for (int i = 0; i < pageCount; i++) {
-      Page p = pages[i];
-      d = folded(folded(d, p.kind), oneIf(!h.ignored[i]));
-      p.tell(h.reach, telling);
-      d = telling.foldedOnto(d);
+      Page p = pageAt(i);
+      if (p != null) {
+        d = folded(folded(d, p.kind), oneIf(!h.ignored[p.number]));
+        p.tell(h.reach, telling);
+        d = telling.foldedOnto(d);
+      }
     }
     return h.row.foldedOnto(d);
   }
@@ -573,7 +574,8 @@ public final class ManyHands {
 
   private boolean allHave(Entry e) {
     for (int i = 0; i < handCount; i++) {
-      if (!hands[i].reach.holds(e)) {
+      Hand h = handAt(i);
+      if (h != null && !h.reach.holds(e)) {
         return false;
       }
     }
@@ -583,9 +585,10 @@ public final class ManyHands {
   /** Of each maker only the first CHANGE that is lacking can have the least STAMP, as STAMPS of one maker rise. */
   private Entry leastLacking(Hand giver, Hand receiver) {
     Entry least = null;
-    for (int maker = 0; maker < handCount; maker++) {
-      int order = receiver.reach.upTo[maker] + 1;
-      Entry e = order > giver.reach.upTo[maker] ? null : hands[maker].ownAt(order);
+    for (int i = 0; i < handCount; i++) {
+      Hand maker = handAt(i);
+      int order = receiver.reach.upTo[i] + 1;
+      Entry e = maker == null || order > giver.reach.upTo[i] ? null : maker.ownAt(order);
       if (e != null && (least == null || e.isBelow(least))) {
         least = e;
       }
@@ -716,7 +719,7 @@ public final class ManyHands {
 
     boolean awaits(Entry e) {
       for (int i = 0; i < waiting.size(); i++) {
-        if (waiting.get(i) == e) {
+        if (waiting.get(i).number == e.number) {
           return true;
         }
       }
